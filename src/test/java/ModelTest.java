@@ -28,8 +28,10 @@ public final class ModelTest {
         Model model = new Model();
         boolean wild = luck.nextInt(4) == 0;
         List<String> calls = new ArrayList<>();
+        int liars = new int[] {0, 10, 40}[luck.nextInt(3)];
+        int[][] opening = luck.nextInt(4) == 0 ? new int[0][] : drawOpening(luck, liars);
         for (int k = 0; k < 250; k++) {
-            int[] call = drawCall(luck, model, wild);
+            int[] call = k < opening.length ? opening[k] : drawCall(luck, model, wild, liars);
             if (call[0] == 20) {
                 playText(luck, real, model, calls);
                 k += 20;
@@ -57,28 +59,51 @@ public final class ModelTest {
         return least + luck.nextInt(most - least + 1);
     }
 
+    private static int drawKind(Random luck, int liars) {
+        return luck.nextInt(100) < liars ? 2 : luck.nextInt(6) == 0 ? 1 : 0;
+    }
+
+    /** A file, some peers, many slots and few gifts: a swarm in which much happens. */
+    private static int[][] drawOpening(Random luck, int liars) {
+        List<int[]> calls = new ArrayList<>();
+        int pieces = 1 + luck.nextInt(8);
+        int peers = 2 + luck.nextInt(5);
+        calls.add(new int[] {2, pieces, 1 + luck.nextInt(4)});
+        for (int i = 0; i < peers; i++) {
+            calls.add(new int[] {3, drawKind(luck, liars), 1 + luck.nextInt(4)});
+        }
+        for (int n = 0; n < pieces; n++) {
+            calls.add(new int[] {4, luck.nextInt(peers), n});
+        }
+        calls.add(new int[] {5, 0, 1 + luck.nextInt(4)});
+        calls.add(new int[] {5, 1, luck.nextInt(10)});
+        calls.add(new int[] {5, 2, luck.nextInt(9)});
+        calls.add(new int[] {5, 3, 1 + luck.nextInt(9)});
+        return calls.toArray(new int[0][]);
+    }
+
     /** A call as its number in the face's order and its arguments. */
-    private static int[] drawCall(Random luck, Model m, boolean wild) {
-        int[] often = {1, 2, 3, 3, 3, 4, 4, 4, 4, 5, 5, 6, 6, 6, 6, 6, 6, 6, 6, 6, 7, 8, 9, 10, 11, 12, 13,
-            14, 15, 16, 17, 18, 19, 20, 20, 21, 22};
+    private static int[] drawCall(Random luck, Model m, boolean wild, int liars) {
+        int[] often = {2, 3, 4, 5, 6, 6, 6, 6, 6, 6, 6, 6, 6, 7, 8, 9, 10, 11, 12, 13,
+            14, 15, 16, 17, 18, 19, 20, 21, 22};
         int which = often[luck.nextInt(often.length)];
-        if (which == 2 && luck.nextInt(3) != 0 || which == 1 && luck.nextInt(4) != 0) {
-            which = 6;
+        if (which == 2) {
+            which = luck.nextInt(6) == 0 ? 2 : 6;
         }
         int lastPeer = Math.max(m.now.peers.size() - 1, 0);
         int peer = near(luck, 0, lastPeer, wild);
         int other = near(luck, 0, lastPeer, wild);
         int piece = near(luck, 0, m.now.pieces - 1, wild);
         switch (which) {
-            case 1: case 2: return new int[] {2, near(luck, 1, 8, wild), near(luck, 1, 4, wild)};
-            case 3: return new int[] {3, luck.nextInt(3) == 0 ? 2 : near(luck, 0, 2, wild), near(luck, 1, 4, wild)};
+            case 2: return new int[] {2, near(luck, 1, 8, wild), near(luck, 1, 4, wild)};
+            case 3: return new int[] {3, wild ? near(luck, 0, 2, true) : drawKind(luck, liars), near(luck, 1, 4, wild)};
             case 4: return new int[] {4, peer, piece};
             case 5: {
                 int what = near(luck, 0, 3, wild);
                 return new int[] {5, what, near(luck, 0, 9, true)};
             }
             case 6: return new int[] {6, luck.nextInt(3) != 0 ? 1 : near(luck, 1, 30, wild)};
-            case 7: return new int[] {7, near(luck, 1, luck.nextInt(5) == 0 ? 90 : 5, wild)};
+            case 7: return new int[] {7, near(luck, 1, luck.nextInt(4) == 0 ? 90 : 5, wild)};
             case 8: return new int[] {8, peer, near(luck, 0, 9, wild)};
             case 9: return new int[] {9, peer, piece, near(luck, 0, m.now.blocks - 1, wild)};
             case 10: case 11: return new int[] {which, peer, other};
