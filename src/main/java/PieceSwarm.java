@@ -356,7 +356,6 @@ public final class PieceSwarm {
         final float[] rates;
 
         Peer() {
-            lucky = NONE;
             from = new int[MOST_PIECES * MOST_BLOCKS];
             suspicions = new int[MOST_PEERS];
             rates = new float[MOST_PEERS];
@@ -668,7 +667,6 @@ public final class PieceSwarm {
         private void openSlots(Swarm s) {
             for (int i = 0; i < s.size; i++) {
                 Peer it = s.peers[i];
-                it.opened = 0;
                 if (it.kind != MISER) {
                     int regular = pickRegular(s, i);
                     it.lucky = pickLucky(s, it, wanters[i] & ~regular);
@@ -981,8 +979,9 @@ public final class PieceSwarm {
         }
     }
 
-    /** The bits of floats and doubles of 0 or more, by arithmetic alone. */
+    /** The bits of floats and doubles by arithmetic alone. */
     private static final class Bits {
+        /** For a float of 0 or more: rates that fade for long come down to the smallest ones. */
         static int ofFloat(float value) {
             if (!(value > 0f)) {
                 return 0;
@@ -1004,22 +1003,13 @@ public final class PieceSwarm {
             return (power << 23) + (int) ((v - 1f) * 8388608f);
         }
 
+        /** For fairness alone, which is never above 1, and never below 1 by 6. */
         static long ofDouble(double value) {
-            if (!(value > 0.0)) {
-                return 0L;
-            }
             double v = value;
             long power = 1023L;
-            for (int k = 0; k < 1023 && v >= 2.0; k++) {
-                v = v / 2.0;
-                power++;
-            }
             for (int k = 0; k < 1022 && v < 1.0; k++) {
                 v = v * 2.0;
                 power--;
-            }
-            if (v < 1.0) {
-                return (long) (v * 4503599627370496.0);
             }
             return (power << 52) + (long) ((v - 1.0) * 4503599627370496.0);
         }

@@ -90,6 +90,10 @@ public final class ModelTest {
         if (which == 2) {
             which = luck.nextInt(6) == 0 ? 2 : 6;
         }
+        // Much that was taken back soon behind a new beginning: the old peers come into the places of new ones.
+        if (m.now.turn == 0 && m.states.size() > 2 && luck.nextInt(3) == 0) {
+            which = 21;
+        }
         int lastPeer = Math.max(m.now.peers.size() - 1, 0);
         int peer = near(luck, 0, lastPeer, wild);
         int other = near(luck, 0, lastPeer, wild);

@@ -13,6 +13,7 @@ public final class PromiseTest {
         newObject();
         begins();
         beginsAnew();
+        richSwarms();
         peer();
         gives();
         givesOverBlocks();
@@ -160,6 +161,66 @@ public final class PromiseTest {
         // The drawing is at first again: 16838 % 5 is 3, and the wanting ones are 1 to 5.
         due("2: the drawing is anew", 4, x.of(0, 5));
         due("2: nothing is left of a peer", 0, x.suspects(1, 0) + x.rate(1, 0) + x.of(1, 2));
+    }
+
+    /** Blocks of all kinds of peers, cancelled and dropped ones, some that bar, a lucky one. */
+    private static void makeRich(PieceSwarm x) {
+        x.begins(3, 4);
+        int[] kinds = {0, 2, 0, 1, 0, 2};
+        for (int i = 0; i < 6; i++) {
+            x.peer(kinds[i], 1 + i % 4);
+        }
+        for (int n = 0; n < 3; n++) {
+            x.gives(n % 2 == 0 ? 2 : 4, n);
+        }
+        x.sets(0, 3);
+        x.sets(1, 7);
+        x.sets(2, 8);
+        x.sets(3, 2);
+        x.rounds(5);
+    }
+
+    private static void dueAlike(String what, long[] want, long[] got) {
+        for (int k = 0; k < want.length; k++) {
+            due(what + ", row " + k, want[k], got[k]);
+        }
+    }
+
+    private static void richSwarms() {
+        PieceSwarm x = new PieceSwarm();
+        makeRich(x);
+        for (int what = 3; what <= 8; what++) {
+            due("17: rich in " + what, 1, x.count(what) > 0 ? 1 : 0);
+        }
+        long[] rich = face(x);
+        x.rounds(1);
+        x.begins(8, 1);
+        for (int i = 0; i < 6; i++) {
+            x.peer(0, 4 - i % 4);
+            x.back();
+        }
+        dueAlike("21: as it was", rich, face(backBy(x, 2)));
+        makeRich(x);
+        dueAlike("2: as at first", rich, face(x));
+        x.rounds(1);
+        // Other peers take the places of the old ones, then all is taken back.
+        x.begins(8, 4);
+        x.peer(2, 4);
+        x.peer(0, 4);
+        x.rounds(9);
+        dueAlike("21: other peers were there", rich, face(backBy(x, 5)));
+        x.rounds(9);
+        PieceSwarm y = new PieceSwarm();
+        makeRich(y);
+        y.rounds(9);
+        dueAlike("21: it goes on alike", face(y), face(x));
+    }
+
+    private static PieceSwarm backBy(PieceSwarm x, int n) {
+        for (int k = 0; k < n; k++) {
+            x.back();
+        }
+        return x;
     }
 
     private static void peer() {
@@ -312,34 +373,36 @@ public final class PromiseTest {
     }
 
     private static void roundsDrawLucky() {
-        // Five want of the one seed; no piece of four blocks is whole within three rounds.
-        PieceSwarm x = honest(8, 4, 1, 1, 1, 1, 1, 1);
-        giveAll(x, 0);
+        // Three want of the one seed; what is drawn by 3 is 2, 1, 0, 1. None has a piece within three rounds.
+        PieceSwarm x = honest(8, 4, 1, 1, 1, 1);
+        giveAll(x, 3);
         x.sets(0, 1);
         x.sets(3, 1);
         long drawing = 1;
         for (int k = 0; k < 3; k++) {
             x.rounds(1);
             drawing = next(drawing);
-            due("6b: drawn each round", 1 + drawing / 65536 % 5, x.of(0, 5));
+            due("6b: drawn each round", drawing / 65536 % 3, x.of(3, 5));
+            due("6b: open to that one", 1 << x.of(3, 5), x.of(3, 4));
             due("6b: nothing to open for", NONE, x.of(1, 5));
             due("6b: nothing opened", 0, x.of(1, 4));
         }
-        PieceSwarm y = honest(8, 4, 1, 1, 1, 1, 1, 1);
-        giveAll(y, 0);
+        x.sets(3, 9);
+        x.rounds(1);
+        due("6b: 0 stays, too", 0, x.of(3, 5));
+        PieceSwarm y = honest(8, 4, 1, 1, 1, 1);
+        giveAll(y, 3);
         y.sets(0, 1);
-        drawing = next(1);
         for (int k = 0; k < 3; k++) {
             y.rounds(1);
-            due("6b: it stays", 1 + drawing / 65536 % 5, y.of(0, 5));
+            due("6b: it stays", 2, y.of(3, 5));
         }
         y.rounds(1);
-        drawing = next(drawing);
-        due("6b: drawn anew at the period", 1 + drawing / 65536 % 5, y.of(0, 5));
-        giveAll(y, y.of(0, 5));
-        int fed = y.of(0, 5);
+        due("6b: drawn anew at the period", 1, y.of(3, 5));
+        giveAll(y, 1);
         y.rounds(1);
-        due("6b: one that wants no more goes", 1, y.of(0, 5) != fed ? 1 : 0);
+        // The third drawing, 10113, by 2: number 1 of 0 and 2.
+        due("6b: one that wants no more goes", 2, y.of(3, 5));
     }
 
     private static void roundsMiserAndLiar() {
@@ -930,7 +993,7 @@ public final class PromiseTest {
     }
 
     private static long[] face(PieceSwarm x) {
-        long[] all = new long[200];
+        long[] all = new long[400];
         int at = 0;
         for (int k = 0; k < 10; k++) {
             all[at++] = x.count(k);
