@@ -1,14 +1,5 @@
 /** At least one test for each promise, with answers worked out by hand from the document. */
-public final class PromiseTest {
-    private static final int NONE = -1;
-    private static final int BAD = -2;
-    private static final int NO = -3;
-    private static final int FULL = -4;
-    private static final int[] FAR = {Integer.MIN_VALUE, -1, 1000, Integer.MAX_VALUE};
-
-    private static int wrong = 0;
-    private static int checks = 0;
-
+public final class PromiseTest extends Checks {
     public static void main(String[] args) {
         newObject();
         begins();
@@ -48,49 +39,7 @@ public final class PromiseTest {
         told();
         digest();
         constants();
-        System.out.println(checks + " checks, " + wrong + " wrong");
-        if (wrong != 0) {
-            System.exit(1);
-        }
-    }
-
-    private static void due(String what, long want, long got) {
-        checks++;
-        if (got != want) {
-            wrong++;
-            System.out.println(what + ": answered " + got + ", due is " + want);
-        }
-    }
-
-    private static int bits(float f) {
-        return Float.floatToIntBits(f);
-    }
-
-    private static long bits(double d) {
-        return Double.doubleToLongBits(d);
-    }
-
-    /** A swarm of the file p, b with honest peers of these caps. */
-    private static PieceSwarm honest(int p, int b, int... caps) {
-        PieceSwarm x = new PieceSwarm();
-        x.begins(p, b);
-        for (int cap : caps) {
-            x.peer(0, cap);
-        }
-        return x;
-    }
-
-    private static void giveAll(PieceSwarm x, int i) {
-        for (int n = 0; n < x.count(1); n++) {
-            x.gives(i, n);
-        }
-    }
-
-    private static void type(PieceSwarm x, String text) {
-        x.clear();
-        for (int at = 0; at < text.length(); at++) {
-            x.type(text.charAt(at));
-        }
+        endWithExitCode();
     }
 
     private static void newObject() {
@@ -368,10 +317,6 @@ public final class PromiseTest {
         due("6b: a liar's lucky one is another", 1, z.of(0, 5) != 3 ? 1 : 0);
     }
 
-    private static long next(long x) {
-        return (x * 1103515245L + 12345L) % 2147483648L;
-    }
-
     private static void roundsDrawLucky() {
         // Three want of the one seed; what is drawn by 3 is 2, 1, 0, 1. None has a piece within three rounds.
         PieceSwarm x = honest(8, 4, 1, 1, 1, 1);
@@ -381,7 +326,7 @@ public final class PromiseTest {
         long drawing = 1;
         for (int k = 0; k < 3; k++) {
             x.rounds(1);
-            drawing = next(drawing);
+            drawing = nextDrawing(drawing);
             due("6b: drawn each round", drawing / 65536 % 3, x.of(3, 5));
             due("6b: open to that one", 1 << x.of(3, 5), x.of(3, 4));
             due("6b: nothing to open for", NONE, x.of(1, 5));
