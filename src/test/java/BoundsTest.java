@@ -55,6 +55,7 @@ public final class BoundsTest extends Checks {
         fairnessOfNothing();
         fairnessAtItsLeast();
         countNumbers();
+        countsSoFar();
         countOfHonestOnes();
         toldNumbers();
         digestWraps();
@@ -286,7 +287,7 @@ public final class BoundsTest extends Checks {
 
     private static void beginsMakesAllAnew() {
         says("All anew, as at first, with P PIECES of B BLOCKS");
-        PieceSwarm x = rich();
+        PieceSwarm x = countsOfAllKinds();
         x.sets(0, 4);
         x.sets(1, 0);
         x.sets(2, 0);
@@ -354,7 +355,12 @@ public final class BoundsTest extends Checks {
 
     private static void peerGotNothing() {
         says("A new PEER, that GOT nothing: its number");
-        PieceSwarm x = rich();
+        // Each miser gets a false block of the liars 0 and 5 and bars them.
+        PieceSwarm x = swarm(3, 1, "L4 M1 M1 M1 M1 L4", "");
+        x.sets(0, 4);
+        x.rounds(3);
+        due("rates of the one that was there", 1, x.rate(4, 0) > 0 ? 1 : 0);
+        due("suspicions of the one that was there", 1, x.suspects(4, 0));
         x.begins(3, 2);
         for (int i = 0; i < 6; i++) {
             due("number", i, x.peer(0, 2));
@@ -365,6 +371,10 @@ public final class BoundsTest extends Checks {
             for (int n = 0; n < 3; n++) {
                 due("block 0", NONE, x.block(i, n, 0));
                 due("block 1", NONE, x.block(i, n, 1));
+            }
+            for (int j = 0; j < i; j++) {
+                due("rates", 0, x.rate(i, j) + x.rate(j, i));
+                due("suspects", 0, x.suspects(i, j) + x.suspects(j, i));
             }
         }
     }
@@ -544,6 +554,7 @@ public final class BoundsTest extends Checks {
         y.sets(2, 8);
         y.rounds(1);
         due("the first one bars all others", 62, y.of(0, 6));
+        due("pairs of the first one", 5, y.count(8));
     }
 
     private static void blockNumbers() {
@@ -637,6 +648,10 @@ public final class BoundsTest extends Checks {
         x.gives(1, 1);
         x.rounds(1);
         due("one by one", bits(1f), x.ratio(0));
+        PieceSwarm y = swarm(4, 1, "H1 H1", "00 01 02 13");
+        y.finishes(90);
+        due("three by one", bits(3f), y.ratio(0));
+        due("one by three", bits(1f / 3f), y.ratio(1));
     }
 
     private static void spreadFromNoneToSix() {
@@ -678,7 +693,9 @@ public final class BoundsTest extends Checks {
             for (int i = 1; i < many; i++) {
                 x.peer(1, 1);
             }
-            x.rounds(3);
+            x.rounds(1);
+            due("one sends one block", bits(1.0 / many), x.fairness());
+            x.rounds(2);
             due("one sends alone", bits(1.0 / many), x.fairness());
         }
         PieceSwarm y = swarm(2, 1, "H1 H1", "00 11");
@@ -691,6 +708,38 @@ public final class BoundsTest extends Checks {
     private static void countNumbers() {
         says("PEERS (what 0) .. whether each HONEST PEER HAS all PIECES (9 ..). BAD");
         range("what", 0, 9, (x, v) -> x.count(v));
+    }
+
+    /** Three blocks sent, one of them false, one ask cancelled, one piece dropped, one pair that bars. */
+    private static PieceSwarm countsOfAllKinds() {
+        PieceSwarm x = swarm(1, 1, "L1 M1 H1 H1 M1", "20 30 40");
+        x.peer(1, 1);
+        x.sets(0, 4);
+        x.rounds(1);
+        return x;
+    }
+
+    private static void countsSoFar() {
+        says("BLOCKS sent so far (4), false ones of them (5), CANCELLED ones (6), PIECES DROPPED (7), pairs that BAR (8)");
+        PieceSwarm x = honest(1, 1, 1, 1);
+        for (int what = 3; what <= 8; what++) {
+            due("nothing yet " + what, 0, x.count(what));
+        }
+        PieceSwarm y = countsOfAllKinds();
+        // The liar can send to 1 alone, which drops it; 2 sends to 1 and not to 5, 3 to 5, what 1 asks it is cancelled.
+        int[] due = {1, 3, 1, 1, 1, 1};
+        for (int what = 3; what <= 8; what++) {
+            due("count " + what, due[what - 3], y.count(what));
+        }
+        y.rounds(1);
+        for (int what = 4; what <= 8; what++) {
+            due("nothing more " + what, due[what - 3], y.count(what));
+        }
+        y.back();
+        y.back();
+        for (int what = 3; what <= 8; what++) {
+            due("taken back " + what, 0, y.count(what));
+        }
     }
 
     private static void countOfHonestOnes() {

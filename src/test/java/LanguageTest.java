@@ -35,6 +35,7 @@ public final class LanguageTest {
         String source = Files.readString(Path.of("src/main/java/PieceSwarm.java"));
         checkSource(source);
         checkLengths(source);
+        checkMaking(source);
         System.out.println(wrong == 0 ? "the language's rules are kept" : wrong + " rules are broken");
         if (wrong != 0) {
             System.exit(1);
@@ -135,6 +136,22 @@ public final class LanguageTest {
             }
             if (lines[at].chars().filter(c -> c == ',').count() > 6) {
                 fail("rule 11: too many parameters: " + lines[at].trim());
+            }
+        }
+    }
+
+    /** All calls of a run share one room (rule 12): only constructors make anything. */
+    private static void checkMaking(String source) {
+        String method = "";
+        for (String line : source.split("\n")) {
+            Matcher m = Pattern.compile("( {4}| {8})([a-zA-Z][^=;(]*)\\([^=;]*\\) \\{").matcher(line);
+            if (m.matches() && !m.group(2).trim().matches("(if|for|while|switch)")) {
+                method = m.group(2).trim();
+            }
+            boolean maker = method.matches("(public )?(PieceSwarm|Peer|Swarm|Round|Text)");
+            if (!maker && line.matches(".*(\\bnew |\\.clone\\(|\\bArrays\\.copyOf).*") && !line.trim().startsWith("*")
+                    && !line.contains("/**")) {
+                fail("rule 12: " + method + " makes something: " + line.trim());
             }
         }
     }

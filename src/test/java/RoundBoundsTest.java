@@ -12,6 +12,7 @@ public final class RoundBoundsTest extends Checks {
         wantsBarredNeitherWay();
         wantsOnePieceMore();
         slotsOpen();
+        theLeastOpensFirst();
         fewerThanSlots();
         ofLikeWorthTheLeast();
         theGreatestWorth();
@@ -27,6 +28,7 @@ public final class RoundBoundsTest extends Checks {
         asksForOneBlock();
         freeBlocks();
         startedFirst();
+        startedOnesAmongThemselves();
         startedByAsking();
         fewestCopies();
         leastFreeBlock();
@@ -183,6 +185,17 @@ public final class RoundBoundsTest extends Checks {
             due("opened with slots " + slots, opened[slots - 1], x.of(5, 4));
             due("lucky with slots " + slots, lucky[slots - 1], x.of(5, 5));
         }
+    }
+
+    private static void theLeastOpensFirst() {
+        says("Each PEER i, the least first");
+        PieceSwarm x = swarm(1, 4, "H4 H4 L4 M1 M1 M1", "00 10");
+        x.sets(0, 1);
+        x.rounds(1);
+        // Drawn by 3 are 2, 1 and 0.
+        due("0 draws first", 5, x.of(0, 5));
+        due("then 1", 4, x.of(1, 5));
+        due("then 2", 3, x.of(2, 5));
     }
 
     private static void fewerThanSlots() {
@@ -448,6 +461,26 @@ public final class RoundBoundsTest extends Checks {
         due("the started one is whole", 4, x.of(1, 2));
         x.rounds(1);
         due("then the rarest", 0, x.block(1, 0, 0));
+    }
+
+    private static void startedOnesAmongThemselves() {
+        says("those STARTED first .. then those with the fewest COPIES, then the least");
+        // 0 and 1 have one piece each, so that 2 starts both; then 3 has all, and perhaps 4 makes one more common.
+        String[] what = {"like ones: the least", "piece 0 is more common", "piece 1 is more common"};
+        for (int k = 0; k < 3; k++) {
+            PieceSwarm x = swarm(3, 3, "H4 H4 M1 H4 M1", "00 11");
+            x.sets(0, 4);
+            x.sets(2, 0);
+            x.rounds(1);
+            due("piece 0 is started", 0, x.block(2, 0, 0));
+            due("piece 1 is started", 1, x.block(2, 1, 0));
+            giveAll(x, 3);
+            if (k > 0) {
+                x.gives(4, k - 1);
+            }
+            x.rounds(1);
+            due(what[k], k == 1 ? 2 : 1, x.of(2, 2));
+        }
     }
 
     private static void startedByAsking() {

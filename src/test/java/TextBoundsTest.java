@@ -41,6 +41,7 @@ public final class TextBoundsTest extends Checks {
         fiveStatesAtMost();
         backWithNone();
         backTakesAllButTextAndRefused();
+        backTakesSendersBack();
         backTakesADrawingBack();
         backOverBegins();
         theFirstOfBadNoFull();
@@ -513,6 +514,19 @@ public final class TextBoundsTest extends Checks {
         x.sets(0, x.told(3));
         x.sets(0, x.told(3));
         due("as before", before, plainDigest(x));
+    }
+
+    private static void backTakesSendersBack() {
+        says("to go back to (from which PEER a BLOCK was GOT)");
+        PieceSwarm x = swarm(1, 2, "H4 H4 M1", "10");
+        x.rounds(1);
+        due("from 1", 1, x.block(2, 0, 0));
+        x.begins(1, 2);
+        due("all orders", 5, does(x, "p0 4;p0 4;p1 1;g0 0;r1;"));
+        due("from 0", 0, x.block(2, 0, 0));
+        x.back();
+        x.back();
+        due("from 1 again", 1, x.block(2, 0, 0));
     }
 
     private static void backTakesADrawingBack() {
