@@ -56,6 +56,7 @@ public final class BoundsTest extends Checks {
         fairnessAtItsLeast();
         countNumbers();
         countsSoFar();
+        pairsThatBarEachOther();
         countOfHonestOnes();
         toldNumbers();
         digestWraps();
@@ -740,6 +741,23 @@ public final class BoundsTest extends Checks {
         for (int what = 3; what <= 8; what++) {
             due("taken back " + what, 0, y.count(what));
         }
+    }
+
+    private static void pairsThatBarEachOther() {
+        says("pairs that BAR (8)");
+        PieceSwarm x = swarm(4, 2, "H4 H4 L4", "00 01 12 13");
+        x.sets(0, 4);
+        // What 0 and 1 have of one another's pieces comes half from the liar, so both drop it, and suspect both senders.
+        x.rounds(1);
+        due("suspected once each", 1111, 1000 * x.suspects(0, 1) + 100 * x.suspects(0, 2)
+                + 10 * x.suspects(1, 0) + x.suspects(1, 2));
+        due("none yet", 0, x.count(8));
+        x.rounds(1);
+        due("0 bars 1 and 2", 6, x.of(0, 6));
+        due("1 bars 0 and 2", 5, x.of(1, 6));
+        due("two that bar each other are two pairs", 4, x.count(8));
+        x.rounds(1);
+        due("nothing is opened any more", 0, x.of(0, 4) + x.of(1, 4) + x.of(2, 4));
     }
 
     private static void countOfHonestOnes() {
